@@ -475,7 +475,7 @@ public final class KeyPlan {
             return size - 1;
         }
 
-        /** The one outside; NONE behind the last, so that a walk outwards has an end. */
+        /** The one outside; NONE outside 0, where a walk outwards ends. */
         int outsideOf(int context) {
             return hold(context) ? outsides[context] : NONE;
         }
@@ -507,18 +507,11 @@ public final class KeyPlan {
         }
 
         int meaning(int context, int row) {
-            int key = decidingKey(context, row);
-            int command = key == NONE ? NONE : map.at(key);
-            return command == FREE ? NONE : command;
-        }
-
-        /** The key of the innermost place that has something (FREE too) for a row; NONE without. */
-        private int decidingKey(int context, int row) {
             int at = context;
             for (int steps = 0; steps < MOST_CONTEXTS && at != NONE; steps++) {
-                int key = Bindings.key(at, row);
-                if (map.at(key) != NONE) {
-                    return key;
+                int command = map.at(Bindings.key(at, row));
+                if (command != NONE) {
+                    return command == FREE ? NONE : command;
                 }
                 at = contexts.outsideOf(at);
             }
@@ -542,25 +535,30 @@ public final class KeyPlan {
         /** Writes the rows that mean something in a context, in order as numbers, each once: how many. */
         int meaningRows(int context, int[] into) {
             int found = 0;
-            for (int i = 0; i < map.size && found < into.length; i++) {
-                int key = map.keys[i];
-                int row = Bindings.rowOf(key);
-                // several contexts may have one row: only the place that decides tells it
-                if (map.commands[i] != FREE && decidingKey(context, row) == key) {
-                    insertInOrder(into, found, row);
-                    found++;
+            for (int i = 0; i < map.size; i++) {
+                int row = Bindings.rowOf(map.keys[i]);
+                if (meaning(context, row) != NONE) {
+                    found = insertOnce(into, found, row);
                 }
             }
             return found;
         }
 
-        private static void insertInOrder(int[] rows, int filled, int row) {
-            int place = filled;
-            while (place > 0 && rows[place - 1] > row) {
-                rows[place] = rows[place - 1];
-                place--;
+        /** Several contexts may have one row, so it may be there: how many there are then. */
+        private static int insertOnce(int[] rows, int filled, int row) {
+            int place = 0;
+            while (place < filled && rows[place] < row) {
+                place++;
+            }
+            boolean present = place < filled && rows[place] == row;
+            if (present || filled >= rows.length) {
+                return filled;
+            }
+            for (int i = filled; i > place; i--) {
+                rows[i] = rows[i - 1];
             }
             rows[place] = row;
+            return filled + 1;
         }
     }
 
@@ -793,12 +791,12 @@ public final class KeyPlan {
         private void prepare(Costs costs, Contexts contexts) {
             leastFrom[wantedCount] = 0;
             for (int i = wantedCount - 1; i >= 0; i--) {
-                int least = Integer.MAX_VALUE;
+                int least = 0;
                 for (int s = 0; s < offeredCount; s++) {
                     prices[i][s] = costs.price(wantedCommands[i], offeredStrokes[s]);
-                    least = Math.min(least, prices[i][s]);
+                    least = s == 0 ? prices[i][s] : Math.min(least, prices[i][s]);
                 }
-                leastFrom[i] = offeredCount == 0 ? 0 : leastFrom[i + 1] + least;
+                leastFrom[i] = leastFrom[i + 1] + least;
                 for (int j = 0; j < i; j++) {
                     meets[i * MOST_WANTED + j] = contexts.meet(wantedContexts[i], wantedContexts[j]);
                 }

@@ -13,6 +13,8 @@ final class AssigningTest {
         offerRefused();
         clearTakesAll();
         contextsThatMeet();
+        contextsThatMeetFromAfar();
+        brokenAskedAlone();
         alikeOnes();
         notTheGreedyOne();
         noAssignment();
@@ -210,6 +212,34 @@ final class AssigningTest {
         x.want(1, 2);
         x.want(2, 2);
         Check.due("one context meets itself", x.cheapest(), -1);
+    }
+
+    private static void contextsThatMeetFromAfar() {
+        KeyPlan x = new KeyPlan();
+        for (int i = 0; i < 11; i++) {
+            x.context(i);
+        }
+        x.offer(10);
+        x.want(1, 11);
+        x.want(2, 0);
+        Check.due("eleven steps", x.cheapest(), -1);
+        x.clear();
+        x.offer(10);
+        x.want(1, 0);
+        x.want(2, 11);
+        Check.due("eleven steps, told the other way", x.cheapest(), -1);
+    }
+
+    private static void brokenAskedAlone() {
+        KeyPlan x = new KeyPlan();
+        x.want(1, 0);
+        x.offer(10);
+        x.habit(1, 11, 5);
+        Check.due("asked before the cheapest", x.broken(), 1);
+        x.habit(1, 10, 5);
+        Check.due("asked behind a change", x.broken(), 0);
+        x.want(2, 0);
+        Check.due("asked when there is none", x.broken(), -1);
     }
 
     private static void alikeOnes() {

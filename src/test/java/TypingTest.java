@@ -14,6 +14,8 @@ final class TypingTest {
         lostStrokes();
         freeMeansNothing();
         mapChangesWhileStrokesWait();
+        threeLostAtOnce();
+        typingOverAFullMap();
         goSettles();
         goToTheSame();
         settleTicks();
@@ -218,6 +220,34 @@ final class TypingTest {
         Check.due("it waits on when the map goes back", x.count(2), 1);
         Check.due("settle finds nothing", x.settle(8), 0);
         Check.due("count(4)", x.count(4), 2);
+    }
+
+    private static void threeLostAtOnce() {
+        KeyPlan x = new KeyPlan();
+        x.bind(0, Check.row(1, 2, 3), 9);
+        x.type(1, 0);
+        x.type(2, 0);
+        x.bind(0, Check.row(1, 2, 3), 40);
+        Check.due("none of the three is live", x.type(3, 1), 0);
+        Check.due("count(4)", x.count(4), 3);
+        Check.due("count(3)", x.count(3), 0);
+    }
+
+    private static void typingOverAFullMap() {
+        KeyPlan x = new KeyPlan();
+        for (int i = 1; i <= 120; i++) {
+            x.bind(0, Check.row(i, 7), i % 40);
+        }
+        Check.due("7 waits", x.type(7, 0), 1);
+        Check.due("7 7 is done", x.type(7, 0), 0);
+        Check.due("200 begins nothing", x.type(200, 1), 0);
+        Check.due("120 waits", x.type(120, 1), 1);
+        Check.due("120 121: both are lost", x.type(121, 1), 0);
+        Check.due("count(4)", x.count(4), 3);
+        Check.dueOut(x, 0, 7, 0);
+        x.bind(0, Check.row(120, 7), -1);
+        Check.due("a row that went makes nothing live", x.type(120, 2), 0);
+        Check.due("count(4)", x.count(4), 4);
     }
 
     private static void goSettles() {
