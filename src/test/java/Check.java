@@ -1,4 +1,6 @@
+import java.util.Arrays;
 import java.util.NoSuchElementException;
+import java.util.stream.IntStream;
 
 /** What the tests share: answers compared with those due, and a run's end. */
 final class Check {
@@ -19,7 +21,28 @@ final class Check {
     }
 
     static void due(String call, boolean got, boolean want) {
-        due(call, got ? 1 : 0, want ? 1 : 0);
+        due(call, number(got), number(want));
+    }
+
+    static long number(boolean answer) {
+        return answer ? 1 : 0;
+    }
+
+    /**
+     * Numbers that are not from least to most: the next ones on either side, those that look like good ones where
+     * higher bits are lost, and the ends of int.
+     */
+    static int[] outside(int least, int most) {
+        int[] tries = {least - 1, most + 1, least - 256, most + 256, least + (1 << 16), least + (1 << 24),
+            most - (1 << 24), least + Integer.MIN_VALUE, most + Integer.MIN_VALUE, Integer.MIN_VALUE,
+            Integer.MAX_VALUE};
+        return Arrays.stream(tries).filter(n -> n < least || n > most).distinct().toArray();
+    }
+
+    /** The ends of what is taken, and what stands next to them inside. */
+    static int[] ends(int least, int most) {
+        return IntStream.of(least, least + 1, most - 1, most).filter(n -> n >= least && n <= most).distinct()
+            .toArray();
     }
 
     /** What out answers, or THREW where it throws what the document names. */
