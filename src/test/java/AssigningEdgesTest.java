@@ -3,14 +3,11 @@ final class AssigningEdgesTest {
     private static final int[] EIGHT = {240, 1, 100, 7, 239, 2, 50, 60};
     private static final int[] SIX = {39, 0, 20, 1, 38, 7};
 
-    private static Scene fresh;
-    private static Scene busy;
-    private static Scene full;
+    private static final Scene fresh = Scene.fresh();
+    private static final Scene busy = Scene.busy();
+    private static final Scene full = Scene.full();
 
     public static void main(String[] args) {
-        fresh = Scene.fresh();
-        busy = Scene.busy();
-        full = Scene.full();
         stretchWithinBounds();
         stretchOutOfBounds();
         usesWithinBounds();
@@ -32,6 +29,8 @@ final class AssigningEdgesTest {
         cheapestOfNothing();
         cheapestWithoutEnough();
         cheapestAtTheEndsOfPrices();
+        cheapestOfFewerThanBefore();
+        theLastWantedGetsTheFirstOffered();
         contextsThatJustMeet();
         ofAlikeOnesTheEarliest();
         assignedWithinBounds();
@@ -270,9 +269,12 @@ final class AssigningEdgesTest {
 
     private static void clearOfAll() {
         KeyPlan x = full.make();
+        Check.due("18: before", x.cheapest(), 60);
         x.clear();
         Check.due("18: wanted", x.count(5), 0);
         Check.due("18: offered", x.count(6), 0);
+        Check.due("18: nothing to assign", x.cheapest(), 0);
+        Check.due("18: nothing assigned", x.assigned(0), -1);
         Check.due("18: the map stays", x.count(1), 120);
         Check.due("18: what waits stays", x.count(2), 2);
         for (int i = 0; i < 6; i++) {
@@ -338,13 +340,52 @@ final class AssigningEdgesTest {
         Check.due("19: the dearest there can be", x.cheapest(), 6 * (1000 * 100 + 10_000));
         Check.due("21: six habits", x.broken(), 6);
         for (int command : SIX) {
-            x.uses(command, 0);
             x.habit(command, 50, 0);
+        }
+        Check.due("19: without weights", x.cheapest(), 6 * 1000 * 100);
+        for (int command : SIX) {
+            x.uses(command, 0);
         }
         Check.due("19: nothing", x.cheapest(), 0);
         Check.due("21: six habits of no weight", x.broken(), 6);
         Check.due("20: the first", x.assigned(0), 240);
         Check.due("20: the sixth", x.assigned(5), 2);
+    }
+
+    private static void cheapestOfFewerThanBefore() {
+        for (int fewer = 1; fewer < 6; fewer++) {
+            KeyPlan x = filled(0);
+            for (int command : SIX) {
+                x.uses(command, 1000);
+            }
+            Check.due("18: six before", x.cheapest(), 60_000);
+            x.clear();
+            for (int i = 0; i < fewer; i++) {
+                x.want(SIX[i], 1);
+                x.offer(EIGHT[i]);
+            }
+            x.offer(EIGHT[7]);
+            x.stretch(EIGHT[7], 9);
+            Check.due("18: " + fewer + " behind clear", x.cheapest(), 10_000 * fewer - 1000);
+            Check.due("18: the last of " + fewer, x.assigned(fewer - 1), EIGHT[7]);
+            Check.due("18: behind the last of " + fewer, x.assigned(fewer), -1);
+        }
+    }
+
+    private static void theLastWantedGetsTheFirstOffered() {
+        KeyPlan x = new KeyPlan();
+        for (int i = 0; i < 6; i++) {
+            x.want(SIX[i], 0);
+            x.uses(SIX[i], 1 + i);
+        }
+        for (int i = 0; i < 8; i++) {
+            x.offer(EIGHT[i]);
+            x.stretch(EIGHT[i], 1 + i);
+        }
+        Check.due("19: the most used nearest", x.cheapest(), 6 + 2 * 5 + 3 * 4 + 4 * 3 + 5 * 2 + 6);
+        for (int i = 0; i < 6; i++) {
+            Check.due("20: the other way round, " + i, x.assigned(i), EIGHT[5 - i]);
+        }
     }
 
     private static void contextsThatJustMeet() {

@@ -4,14 +4,11 @@ final class ChangesEdgesTest {
     private static final int NONE = KeyPlan.NONE;
     private static final int LAST_ROW = Check.row(240, 240, 240);
 
-    private static Scene fresh;
-    private static Scene busy;
-    private static Scene full;
+    private static final Scene fresh = Scene.fresh();
+    private static final Scene busy = Scene.busy();
+    private static final Scene full = Scene.full();
 
     public static void main(String[] args) {
-        fresh = Scene.fresh();
-        busy = Scene.busy();
-        full = Scene.full();
         anEmptyMapIsKeptAtFirst();
         keepAnEmptyMap();
         keepAFullMap();

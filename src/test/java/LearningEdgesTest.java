@@ -3,16 +3,12 @@ final class LearningEdgesTest {
     private static final int MIN = Integer.MIN_VALUE;
     private static final int MAX = Integer.MAX_VALUE;
 
-    private static Scene fresh;
-    private static Scene busy;
-    private static Scene full;
-    private static Scene typedMuch;
+    private static final Scene fresh = Scene.fresh();
+    private static final Scene busy = Scene.busy();
+    private static final Scene full = Scene.full();
+    private static final Scene typedMuch = Scene.typedMuch();
 
     public static void main(String[] args) {
-        fresh = Scene.fresh();
-        busy = Scene.busy();
-        full = Scene.full();
-        typedMuch = Scene.typedMuch();
         nothingToLearn();
         learnWithinBounds();
         learnAllForty();

@@ -11,14 +11,11 @@ final class MapEdgesTest {
         Check.row(5, 6) + (1 << 24), Check.row(5, 6, 7) + (1 << 25), 5 - (1 << 24), 5 + Integer.MIN_VALUE,
         Integer.MIN_VALUE, Integer.MAX_VALUE};
 
-    private static Scene fresh;
-    private static Scene busy;
-    private static Scene full;
+    private static final Scene fresh = Scene.fresh();
+    private static final Scene busy = Scene.busy();
+    private static final Scene full = Scene.full();
 
     public static void main(String[] args) {
-        fresh = Scene.fresh();
-        busy = Scene.busy();
-        full = Scene.full();
         aNewObjectHasContext0Alone();
         aNewObjectHasAnEmptyMap();
         aContextStandsInEachThatThereIs();
@@ -317,13 +314,14 @@ final class MapEdgesTest {
     private static void fightAsksWithinBounds() {
         int two = Check.row(5, 6);
         int three = Check.row(5, 6, 7);
+        Check.due("6: asked before anything else", busy.make().fight(0, 2, 0), two);
         KeyPlan x = busy.make();
         Check.due("7: fights(0)", x.fights(0), 3);
         dueFight(x, 0, 0, 5, two);
         dueFight(x, 0, 1, 5, three);
         dueFight(x, 0, 2, two, three);
-        Check.due("7: fights(1), 5 being FREE there", x.fights(1), 1);
         dueFight(x, 1, 0, two, three);
+        Check.due("7: fights(1), 5 being FREE there", x.fights(1), 1);
         for (int i : Check.outside(0, 2)) {
             busy.dueAndSame("6: of three, fight(0, " + i + ", 0)", y -> y.fight(0, i, 0), -1);
             busy.dueAndSame("6: of three, fight(0, " + i + ", 1)", y -> y.fight(0, i, 1), -1);

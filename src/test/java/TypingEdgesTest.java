@@ -5,16 +5,12 @@ final class TypingEdgesTest {
     private static final int LAST_TICK = 1_000_000;
     private static final int PAIR = Check.row(5, 6);
 
-    private static Scene fresh;
-    private static Scene busy;
-    private static Scene full;
-    private static Scene typedMuch;
+    private static final Scene fresh = Scene.fresh();
+    private static final Scene busy = Scene.busy();
+    private static final Scene full = Scene.full();
+    private static final Scene typedMuch = Scene.typedMuch();
 
     public static void main(String[] args) {
-        fresh = Scene.fresh();
-        busy = Scene.busy();
-        full = Scene.full();
-        typedMuch = Scene.typedMuch();
         patienceWithinBounds();
         patienceOutOfBounds();
         tenTicksAtFirst();
